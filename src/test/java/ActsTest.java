@@ -18,6 +18,7 @@ public final class ActsTest {
         sleeps();
         wakes();
         lostHubs();
+        lostWhileBusy();
         years();
         statusCounts();
         undoes();
@@ -469,6 +470,23 @@ public final class ActsTest {
         Checks.due("HUB 0 runs again, 2 is next, as 1 waits for it", 2, x.all(6));
         x.tick(20);
         Checks.due("all", 31, x.all(4));
+    }
+
+    /** A HUB is lost while one beneath it is in RESET, at its FIRST, at its SECOND. */
+    private static void lostWhileBusy() {
+        for (int ticks = 1; ticks <= 3; ticks++) {
+            HubTree x = Checks.withTree("sd1r1p1;dn1o1u2;d");
+            x.plug(0, 8, 0);
+            x.tick(4);
+            x.plug(1, 0, 0);
+            x.tick(ticks);
+            Checks.due("in RESET or at a bite", 2 + ticks, what(x, 1));
+            x.supply(0);
+            Checks.due("WAITING", 2, what(x, 1));
+            Checks.due("with the next TURN", 3, Checks.device(x, 1, 2));
+            Checks.due("no TIMER", 0, Checks.device(x, 1, 1));
+            Checks.due("nobody in RESET or at a bite", NONE, x.all(6));
+        }
     }
 
     private static void years() {

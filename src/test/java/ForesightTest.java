@@ -38,7 +38,7 @@ public final class ForesightTest {
         Checks.due("when: the next TICK", 1, x.when(0));
         x.tick(1);
         Checks.due("when: it is", 0, x.when(0));
-        // Six that FAIL five times each, RESET 9: 0 can't come within 200 TICKS, and at 199 it can.
+        // Three that FAIL again and again: who is PLUGGED behind them waits for a TRY of each.
         HubTree y = Checks.withTree("sd9r9y5n4;de1;de1;de1;de1;d");
         for (int d = 0; d < 4; d++) {
             y.plug(d, 8, d);

@@ -49,7 +49,11 @@ public final class TextsTest {
         for (int i = 1; i <= 12; i++) {
             Checks.due("feed 20", 20 * i, x.feed(0x20202020, 0x20202020, 0x20202020, 0x20202020, 0x20202020));
         }
-        Checks.due("feed: 241", HubTree.NONE, x.feed(0, 0, 1, 0, 0));
+        Checks.due("feed: 241 by the first", HubTree.NONE, x.feed(1, 0, 0, 0, 0));
+        Checks.due("feed: 241 by the second", HubTree.NONE, x.feed(0, 1 << 8, 0, 0, 0));
+        Checks.due("feed: 241 by the third", HubTree.NONE, x.feed(0, 0, 1 << 16, 0, 0));
+        Checks.due("feed: 241 by the fourth", HubTree.NONE, x.feed(0, 0, 0, 1 << 24, 0));
+        Checks.due("feed: 241 by the fifth", HubTree.NONE, x.feed(0, 0, 0, 0, 1 << 31));
         Checks.due("feed: refused, nothing came", 240, x.count(2));
         Checks.due("feed: none more is no more than 240", 240, x.feed(0, 0, 0, 0, 0));
         x.end(230);
