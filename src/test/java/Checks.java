@@ -58,6 +58,20 @@ final class Checks {
         return x.text(1);
     }
 
+    /** An object whose TIME is that, in few calls: TICKS by SCRIPT 0, then by hand. */
+    static HubTree atTime(String tree, int time) {
+        HubTree x = withTree(tree);
+        int script = script(x, "t60" + ";t60".repeat(15));
+        while (time - x.all(0) >= 960) {
+            x.perform(script);
+        }
+        while (x.all(0) < time) {
+            x.tick(Math.min(60, time - x.all(0)));
+        }
+        due("TIME", time, x.all(0));
+        return x;
+    }
+
     /** What device answers; -99 stands for its exception. */
     static int device(HubTree x, int device, int what) {
         try {

@@ -8,7 +8,11 @@ public final class ModelTest {
         Integer.MAX_VALUE, Integer.MIN_VALUE,
     };
 
+    /** An object is used for at most 512 calls; one round of this test makes up to 20. */
+    private static final int CALLS = 490;
+
     private final Random random;
+    private int calls = 0;
     private final StringBuilder story = new StringBuilder();
     private HubTree x = new HubTree();
     private Model m = new Model();
@@ -33,7 +37,7 @@ public final class ModelTest {
             if (random.nextInt(12) > 0) {
                 text(treeText(), 0);
             }
-            for (int i = 0; i < 400 && agreed; i++) {
+            for (int i = 0; i < 1000 && calls < CALLS && agreed; i++) {
                 agreed = call();
             }
         } catch (RuntimeException e) {
@@ -56,6 +60,7 @@ public final class ModelTest {
     }
 
     private boolean same(String call, long got, long want) {
+        calls++;
         story.append(call).append(" = ").append(want).append("; ");
         if (got != want) {
             story.append("but the program answered ").append(got);
@@ -102,7 +107,7 @@ public final class ModelTest {
 
     private String treeText() {
         StringBuilder s = new StringBuilder();
-        int devices = 1 + random.nextInt(8);
+        int devices = random.nextInt(3) == 0 ? 8 : 1 + random.nextInt(8);
         int rules = random.nextInt(devices + 2);
         for (int i = 0; i <= devices; i++) {
             if (i == rules) {
