@@ -42,6 +42,7 @@ public final class RuleBoundsTest {
         noLongerConfigured();
         hubSevenAboveZero();
         eightAtOnce();
+        noNinth();
         Checks.finish();
     }
 
@@ -934,6 +935,44 @@ public final class RuleBoundsTest {
         Checks.due("the second ADDRESS", 2, y.at(2));
         for (int address = 7; address <= 10; address++) {
             Checks.due("nobody at " + address, NONE, x.at(address));
+        }
+    }
+
+    /** DEVICES 0 .. 7: what the first of eight has is never taken for what a ninth would have. */
+    private static void noNinth() {
+        HubTree x = Checks.withTree("sd6r1p5;do1;dn4u2;d;d;d;d;d;d");
+        x.plug(1, 8, 0);
+        x.tick(9);
+        x.plug(0, 8, 1);
+        for (int timer = 6; timer >= 1; timer--) {
+            Checks.due("TIMER of 0", timer, Checks.device(x, 0, 1));
+            Checks.due("LEFT of 1", 3, x.hub(1, 3));
+            Checks.due("1 falls ASLEEP", 1, x.sleep(1));
+            Checks.due("1 wakes", 0, x.sleep(1));
+            x.tick(1);
+        }
+        // HUB 1 can't bear 2; DEVICE 0 in PORT 1 of the ROOT is no concern of it.
+        HubTree y = Checks.withTree("sd6r1p1;do1;dn4o1u1;du1;d;d;d;d;d");
+        y.plug(1, 8, 0);
+        y.plug(2, 1, 0);
+        y.tick(12);
+        y.plug(0, 8, 1);
+        y.supply(1);
+        Checks.due("2 is REFUSED", 4, y.all(5));
+        Checks.due("1 runs", 2, y.all(4));
+        Checks.due("0 SETTLES", 6, Checks.device(y, 0, 1));
+        for (int ticks = 0; ticks <= 4; ticks++) {
+            HubTree z = Checks.withTree("sd6r1p1;d;dn4o1u2;d;d;d;d;d;d");
+            z.plug(1, 8, 0);
+            z.tick(9);
+            z.plug(0, 8, 1);
+            for (int i = 0; i < ticks; i++) {
+                z.tick(1);
+            }
+            z.supply(1);
+            Checks.due("1 is REFUSED", 2, why(z, 1));
+            Checks.due("0 SETTLES as it did", 6 - ticks, Checks.device(z, 0, 1));
+            Checks.due("no TURN was given", 2, z.again(1));
         }
     }
 }
